@@ -533,25 +533,21 @@ public final class AbsentBells {
                 ahead++;
             }
             start = ahead;
-            if (ahead >= length) {
-                token = END;
-            } else if (isDigit(letters[ahead])) {
-                scanNumber();
-            } else {
-                token = isWord(letters[ahead]) ? letters[ahead] : WRONG;
-                ahead++;
-            }
-        }
-
-        private void scanNumber() {
             number = 0;
             while (ahead < length && isDigit(letters[ahead])) {
                 // Held just above the highest, so that two hundred digits don't wrap around.
                 number = Math.min(HIGHEST + 1, number * 10 + letters[ahead] - '0');
                 ahead++;
             }
-            boolean zeroAhead = letters[start] == '0' && ahead - start > 1;
-            token = zeroAhead || number > HIGHEST ? WRONG : NUMBER;
+            if (start >= length) {
+                token = END;
+            } else if (ahead > start) {
+                boolean zeroAhead = letters[start] == '0' && ahead - start > 1;
+                token = zeroAhead || number > HIGHEST ? WRONG : NUMBER;
+            } else {
+                token = isWord(letters[start]) ? letters[start] : WRONG;
+                ahead++;
+            }
         }
 
         private static boolean isDigit(int letter) {
@@ -633,7 +629,7 @@ public final class AbsentBells {
 
         void begin(Plan told) {
             plan.take(told);
-            moment.begin(told);
+            moment.begin(plan);
         }
 
         /** Whether one who is not at this duty's place is rung for in a minute. */

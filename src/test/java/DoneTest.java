@@ -25,7 +25,9 @@ public final class DoneTest {
         for (int[] b : bad) {
             due.is("goes(" + b[0] + ", " + b[1] + ")", bells.goes(b[0], b[1]), AbsentBells.BAD);
         }
-        bells.passes(12);
+        bells.passes(11);
+        due.is("one minute to go", bells.goes(0, 1), AbsentBells.STATE);
+        bells.passes(1);
         due.is("is there", bells.goes(0, 4), AbsentBells.STATE);
         due.is("goes on", bells.goes(0, 3), 4);
         bells.passes(228);

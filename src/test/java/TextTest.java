@@ -10,6 +10,8 @@ public final class TextTest {
         lists();
         numbers();
         readAnew();
+        nothingOldIsLeft();
+        fullTown();
         faultChangesNothing();
         counts();
         due.end();
@@ -170,6 +172,48 @@ public final class TextTest {
         due.is("anew: person(0, 0)", bells.person(0, 0), 1);
         due.is("anew: person(1, 0)", bells.person(1, 0), AbsentBells.BAD);
         due.is("anew: trace() goes on", bells.trace(), 11);
+    }
+
+    /** A smaller town behind a larger one, in the midst of things. */
+    private static void nothingOldIsLeft() {
+        AbsentBells bells = Due.told("w6;p5;p5;p5;" + Due.repeat("d0 1 0 60;", 4) + Due.repeat("d2 1 0 60;", 4) + "f0;");
+        bells.excuses(0, 1);
+        bells.goes(0, 2);
+        bells.swaps(1, 7);
+        bells.passes(1);
+        due.is("town()", Due.tell(bells, "p0;p1;d1 1 0 9;f0;"), 4);
+        due.is("duty(0, 0)", bells.duty(0, 0), 1);
+        due.is("duty(0, 4)", bells.duty(0, 4), 0);
+        due.is("duty(1, 0)", bells.duty(1, 0), AbsentBells.BAD);
+        due.is("person(0, 0)", bells.person(0, 0), 0);
+        due.is("person(0, 2)", bells.person(0, 2), 0);
+        due.is("person(2, 0)", bells.person(2, 0), AbsentBells.BAD);
+        due.is("now(4)", bells.now(4), AbsentBells.NONE);
+        due.is("silence(1)", bells.silence(1), 0);
+        due.is("least(0, 0)", bells.least(0, 0), 0);
+        due.is("tells(0, 0, 1)", bells.tells(0, 0, 1), AbsentBells.NONE);
+        due.is("odds(0, 0, 0, 0)", bells.odds(0, 0, 0, 0), 0);
+        due.is("passes(240)", bells.passes(240), 0);
+        due.is("now(2)", bells.now(2), 0);
+    }
+
+    /** As many of all as may be: nothing is looked for behind the last one. */
+    private static void fullTown() {
+        AbsentBells bells = Due.told("w6;" + Due.repeat("p0;", 5) + Due.repeat("d4 5 0 60;", 8) + "g9;f0;");
+        due.is("count(2)", bells.count(2), 8);
+        due.is("rings(0)", bells.rings(0), 16);
+        due.is("chord(16, 0)", bells.chord(16, 0), 60);
+        due.is("silence(16)", bells.silence(16), 255);
+        due.is("least(4, 0)", bells.least(4, 0), 45);
+        due.is("least(4, 1)", bells.least(4, 1), 1);
+        due.is("can(4)", bells.can(4), 63);
+        due.is("tells(4, 4, 5)", bells.tells(4, 4, 5), 0);
+        due.is("odds(4, 0, 1, 1)", bells.odds(4, 0, 1, 1), 100000000);
+        due.is("passes(240)", bells.passes(240), 60);
+        due.is("now(2)", bells.now(2), 60);
+        due.is("now(3)", bells.now(3), 4);
+        due.is("now(4)", bells.now(4), AbsentBells.NONE);
+        due.is("rate(5, 7)", bells.rate(5, 7), 120);
     }
 
     private static void faultChangesNothing() {
