@@ -20,9 +20,35 @@ public final class LanguageTest {
             Matcher matcher = Pattern.compile(pattern).matcher(code);
             due.is(pattern + " is not used", matcher.find() ? 1 : 0, 0);
         }
+        library(code);
+        staticFields(code);
         parameters(code);
         lengths(code.split("\n"));
         due.end();
+    }
+
+    /** Rule 4: what is used of Java's own classes is all listed there. */
+    private static void library(String code) {
+        Matcher matcher = Pattern.compile("\\b(?!AbsentBells)([A-Z][a-z]\\w*)\\.(\\w+)").matcher(code);
+        int found = 0;
+        while (matcher.find()) {
+            found++;
+            boolean listed = matcher.group().matches("Math\\.(min|max|abs)|Integer\\.bitCount|System\\.arraycopy");
+            due.is("in the library that is listed: " + matcher.group(), listed ? 1 : 0, 1);
+        }
+        due.is("uses of the library were found", found > 0 ? 1 : 0, 1);
+    }
+
+    /** Rule 5: static fields are final, and numbers here. */
+    private static void staticFields(String code) {
+        Matcher matcher = Pattern.compile("(?m)^ +[a-z ]*\\bstatic\\b[^(){}\n]*[;=].*$").matcher(code);
+        int found = 0;
+        while (matcher.find()) {
+            found++;
+            due.is("a constant: " + matcher.group().trim(),
+                matcher.group().trim().matches("(public|private) static final int [^(){}]*;") ? 1 : 0, 1);
+        }
+        due.is("static fields were found", found > 0 ? 1 : 0, 1);
     }
 
     private static void parameters(String code) {
