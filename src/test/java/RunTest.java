@@ -48,7 +48,7 @@ public final class RunTest {
             }
             Path told = town.resolve("told.txt");
             // From another directory than the project's: .ci/run finds its own.
-            int exitCode = new ProcessBuilder(project.resolve(SCRIPT).toString()).directory(town.toFile())
+            int exitCode = new ProcessBuilder("sh", project.resolve(SCRIPT).toString()).directory(town.toFile())
                 .redirectErrorStream(true).redirectOutput(told.toFile()).start().waitFor();
             boolean compiles = !change.file.equals(SOURCE.toString());
             compare(change, exitCode, Files.readString(told), compiles);
